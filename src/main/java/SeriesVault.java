@@ -972,7 +972,7 @@ public final class SeriesVault {
         private final int[] scarOwners;
         private final long[] scarFroms;
         private final long[] scarTos;
-        private final boolean[] scarStays;
+        private final int[] scarPoints;
         private int scarCount;
         private long horizon;
         private int seriesCount;
@@ -984,7 +984,7 @@ public final class SeriesVault {
             scarOwners = new int[SCAR_LIMIT];
             scarFroms = new long[SCAR_LIMIT];
             scarTos = new long[SCAR_LIMIT];
-            scarStays = new boolean[SCAR_LIMIT];
+            scarPoints = new int[SCAR_LIMIT];
             lasts = new long[SERIES_LIMIT];
         }
 
@@ -1083,13 +1083,13 @@ public final class SeriesVault {
         }
 
         void endScars() {
-            Arrays.fill(scarStays, false);
+            Arrays.fill(scarPoints, 0);
             for (int k = 0; k < parcelCount; k++) {
-                markScarsOf(parcels[k]);
+                countPointsOfScars(parcels[k]);
             }
             int stay = 0;
             for (int i = 0; i < scarCount; i++) {
-                if (scarStays[i]) {
+                if (scarPoints[i] > 0) {
                     scarOwners[stay] = scarOwners[i];
                     scarFroms[stay] = scarFroms[i];
                     scarTos[stay] = scarTos[i];
@@ -1099,11 +1099,11 @@ public final class SeriesVault {
             scarCount = stay;
         }
 
-        private void markScarsOf(Parcel parcel) {
+        private void countPointsOfScars(Parcel parcel) {
             for (int i = 0; i < parcel.size; i++) {
                 int scar = scarOf(parcel.owners[i], parcel.times[i]);
                 if (scar != NONE) {
-                    scarStays[scar] = true;
+                    scarPoints[scar]++;
                 }
             }
         }
