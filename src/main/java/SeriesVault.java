@@ -882,21 +882,30 @@ public final class SeriesVault {
             owners = new int[size];
             times = new long[size];
             values = new long[size];
-            int end = 0;
-            for (int s = 0; s < seriesCount; s++) {
-                for (int i = 0; i < size; i++) {
-                    if (points.owners[i] == s) {
-                        owners[end] = s;
-                        times[end] = points.times[i];
-                        values[end] = points.values[i];
-                        end++;
-                    }
-                }
+            int[] places = chunkPlaces(points, seriesCount);
+            for (int i = 0; i < size; i++) {
+                int owner = points.owners[i];
+                int place = places[owner];
+                owners[place] = owner;
+                times[place] = points.times[i];
+                values[place] = points.values[i];
+                places[owner]++;
             }
             chunks = countChunks(owners);
             bits = 64 * chunks + bitsOfChunks(owners, times, values);
             blocks = (bits + BLOCK_BITS - 1) / BLOCK_BITS;
             newest = greatest(times);
+        }
+
+        private static int[] chunkPlaces(Points points, int seriesCount) {
+            int[] places = new int[seriesCount + 1];
+            for (int i = 0; i < points.size; i++) {
+                places[points.owners[i] + 1]++;
+            }
+            for (int s = 0; s < seriesCount; s++) {
+                places[s + 1] += places[s];
+            }
+            return places;
         }
 
         private static int countChunks(int[] owners) {
@@ -1693,17 +1702,14 @@ public final class SeriesVault {
 
         /** Where a row with the texts of this series stands, or is to stand. */
         private int placeOf(Series series) {
-            int low = 0;
-            int high = rowCount;
-            while (low < high) {
-                int middle = (low + high) / 2;
-                if (compareTexts(rowSeries[middle], series) < 0) {
-                    low = middle + 1;
-                } else {
-                    high = middle;
+            int before = 0;
+            for (int step = SERIES_LIMIT; step > 0; step /= 2) {
+                int next = before + step;
+                if (next <= rowCount && compareTexts(rowSeries[next - 1], series) < 0) {
+                    before = next;
                 }
             }
-            return low;
+            return before;
         }
 
         int rowOf(Series series) {

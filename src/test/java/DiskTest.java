@@ -12,12 +12,15 @@ public final class DiskTest {
         flushCatalog();
         flushPower();
         chunks();
+        chunksApart();
+        fullBlock();
         compact();
         compactLimits();
         compactPower();
         retain();
         retainPower();
         scars();
+        scarsOfSeveral();
         count();
         parcel();
         written();
@@ -176,6 +179,46 @@ public final class DiskTest {
         CHECK.due("21: a new frame counts from there on", bits(0, 0, 1, -1, 2, -2, 3, -4), 9 + 77 + 1 + 66 + 1 + 66);
         CHECK.due("21: it is the latest one",
                 bits(0, 0, 1, 1L << 40, 2, 3L << 40, 3, 2L << 40), 9 + 14 + 1 + 14 + 1 + 14);
+    }
+
+    private static void chunksApart() {
+        Probe p = new Probe();
+        p.series("a=b");
+        p.series("a=c");
+        p.bulk(1, 5000, 0, 10000, 1L << 40);
+        p.bulk(0, 0, 0, 5000, -1, 10000, 0);
+        p.vault.flush();
+        CHECK.due("21: no frame and no step at the beginning", p.vault.parcel(0, 3), 2 * 168 + 45 + 77 + 1 + 66 + 45 + 14);
+        CHECK.due("21: the order in which they came does not count", p.vault.parcel(0, 2), 2);
+        p.bulk(1, 20000, 7);
+        p.bulk(0, 20000, 7);
+        p.vault.flush();
+        p.vault.compact(0);
+        CHECK.due("21: put together", p.parcel(0), "7 7 2 " + (2 * 168 + 45 + 77 + 1 + 66 + 45 + 66 + 45 + 14 + 45 + 13 + 41) + " 1");
+    }
+
+    /** 289 points of 32147 bits in all, then some that have 2 bits, and perhaps one of 67. */
+    private static Probe nearlyFull(int more, boolean changes) {
+        long[] numbers = new long[2 * (289 + more)];
+        long time = 0;
+        for (int i = 0; i < 289 + more; i++) {
+            time += i < 289 ? i % 2 == 0 ? 100 : 9900 : 100;
+            numbers[2 * i] = time;
+            numbers[2 * i + 1] = i < 289 ? i % 2 == 0 ? 0 : -1 : changes ? -1 : 0;
+        }
+        Probe p = new Probe();
+        p.series("a=b");
+        CHECK.due("21: points", p.bulk(0, numbers), 289 + more);
+        p.vault.flush();
+        return p;
+    }
+
+    private static void fullBlock() {
+        Probe full = nearlyFull(22, true);
+        CHECK.due("21: a full block", full.parcel(0), "311 311 1 32256 1");
+        Probe more = nearlyFull(55, false);
+        CHECK.due("21: a bit more", more.parcel(0), "344 344 1 32257 2");
+        CHECK.due("21: free", more.vault.count(4), full.vault.count(4) - 1);
     }
 
     private static void compact() {
@@ -347,6 +390,36 @@ public final class DiskTest {
         r.vault.compact(0);
         CHECK.due("10: scars", r.vault.count(3), 0);
         CHECK.due("10: seen", r.vault.count(8), 1);
+    }
+
+    private static void scarsOfSeveral() {
+        Probe p = new Probe();
+        p.series("a=b");
+        p.series("a=c");
+        p.bulkOf(0, 0, 5);
+        p.vault.flush();
+        p.bulkOf(0, 5, 5);
+        p.bulkOf(1, 0, 10);
+        p.vault.flush();
+        p.bulkOf(1, 10, 3);
+        p.vault.flush();
+        p.vault.delete(0, 1, 2);
+        p.vault.delete(1, 11, 11);
+        p.vault.delete(1, 3, 4);
+        p.vault.delete(0, 7, 7);
+        CHECK.due("10: scars", p.vault.count(3), 4);
+        p.vault.compact(0);
+        CHECK.due("10: the one in the last parcel stays", p.vault.count(3), 1);
+        CHECK.due("10: its series and times", p.asked("count by (a)({})", 0, 1, 13), "b| 1 . . 1 1 1 1 . 1 1 . . .; c| 1 1 1 . . 1 1 1 1 1 1 . 1");
+        p.vault.delete(1, 0, 12);
+        CHECK.due("10: scars", p.vault.count(3), 2);
+        p.vault.append(0, MAX_TIME, 5);
+        p.vault.flush();
+        CHECK.due("20: the latest time is seen", p.vault.count(8), 8);
+        CHECK.due("20: in its parcel", p.vault.parcel(2, 1), 1);
+        p.vault.off();
+        p.vault.start();
+        CHECK.due("26: seen", p.asked("count by (a)({})", 0, 1, 13), "b| 1 . . 1 1 1 1 . 1 1 . . .");
     }
 
     private static void count() {

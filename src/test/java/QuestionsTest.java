@@ -25,6 +25,7 @@ public final class QuestionsTest {
         nothing();
         seenAlone();
         accessors();
+        greatTable();
         CHECK.finish("QuestionsTest");
     }
 
@@ -287,7 +288,7 @@ public final class QuestionsTest {
             {"", "31"}, {"a=\"x\"", "1"}, {"a!=\"x\"", "30"}, {"a^=\"x\"", "3"}, {"a!^\"x\"", "28"}, {"a=\"\"", "24"}, {"a!=\"\"", "7"},
             {"a^=\"\"", "31"}, {"a!^\"\"", ""}, {"a^=\"x\",a!=\"x\"", "2"}, {"b=\"x\",a!=\"y\"", "8"}, {"q=\"\"", "31"}, {"q=\"x\"", ""},
             {"a=\"X\"", ""}, {"a=\"x \"", ""}, {"a^=\"xyz\"", ""}, {"a=\"abcdefghijklmnopqrstuvwxyz\"", ""}, {"a!=\"x\",a!=\"y\"", "26"},
-            {"a=\"x\",a=\"y\"", ""}, {"A=\"x\"", ""},
+            {"a=\"x\",a=\"y\"", ""}, {"A=\"x\"", ""}, {"azAZ_09=\"x\"", ""}, {"z=\"\",Z=\"\",_=\"\",__9=\"\",A0=\"\"", "31"},
         };
         for (String[] a : answers) {
             CHECK.due("15: {" + a[0] + "}", p.asked("sum({" + a[0] + "})", 0, 9, 1), a[1].isEmpty() ? "" : " " + a[1]);
@@ -355,6 +356,24 @@ public final class QuestionsTest {
         CHECK.due("15: one of the head", p.asked("sum({job=\"web\"})", 0, 100, 1), "");
         p.vault.retain(25);
         CHECK.due("15: below the horizon", p.asked("count by (job)({})", 0, 100, 1), "| 1; api| 2");
+    }
+
+    private static void greatTable() {
+        Probe p = new Probe();
+        p.vault.format(64, 16);
+        for (int s = 0; s < 256; s++) {
+            p.series("n=" + (1000 + s));
+            p.vault.append(s, s % 64, s);
+            p.vault.append(s, 64, 7);
+        }
+        CHECK.due("15: 256 rows", p.ask("first by (n)({}) + latest by (n)({}) - sum by (n)({})", 0, 1, 64), 256);
+        CHECK.due("16: names()", p.vault.names(), 1);
+        for (int s = 0; s < 256; s++) {
+            CHECK.due("17: its text", p.vault.text(s, 0, 3), '0' + s % 10);
+            CHECK.due("18: its window", p.vault.isThere(s, s % 64), true);
+            CHECK.due("18: another window", p.vault.isThere(s, (s + 1) % 64), false);
+            CHECK.due("19: its cell", p.vault.cell(s, s % 64), s);
+        }
     }
 
     private static void accessors() {

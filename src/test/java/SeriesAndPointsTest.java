@@ -95,8 +95,11 @@ public final class SeriesAndPointsTest {
         p.vault.append(0, 5, 5);
         p.vault.flush();
         p.vault.append(0, 6, 6);
-        p.vault.delete(0, 5, 5);
+        p.vault.append(0, 7, 7);
+        p.vault.flush();
+        p.vault.delete(0, 6, 6);
         p.vault.retain(6);
+        CHECK.due("4: before it", p.counts(), "1 0 1 1 52 1 1 1 1");
         p.ask("1", 0, 1, 1);
         p.ask("?", 0, 1, 1);
         p.ask("1", 0, 1, 1);
@@ -136,6 +139,13 @@ public final class SeriesAndPointsTest {
         CHECK.due("5: text", p.textOf(3), word + "=" + word);
         CHECK.due("5: units", p.vault.count(5), 2 + 2 + 2 + 3);
         CHECK.due("5: records", p.vault.count(6), 4);
+        int units = p.vault.count(5);
+        p.series("a234567890123456=b23456789012345");
+        CHECK.due("5: 32 bytes", p.vault.count(5), units + 2);
+        p.series("a234567890123456=b234567890123456");
+        CHECK.due("5: 33 bytes", p.vault.count(5), units + 2 + 3);
+        p.series("abc=1,abd=2,ab=3");
+        CHECK.due("5: names that begin alike", p.textOf(6), "ab=3,abc=1,abd=2");
         p.vault.off();
         Tape.put(p.vault, "q=q");
         CHECK.refused("5: series() without power", Probe.STATE, () -> p.vault.series());
@@ -153,6 +163,7 @@ public final class SeriesAndPointsTest {
             {"a=b,a=c", "8 at 4"}, {"a=b,a=", "8 at 4"}, {"a=b,a", "7 at 5"}, {"a=b,a,", "7 at 5"}, {"a=b,c=d,a=(", "8 at 8"},
             {"a=1,b=2,c=3,d=4,e=5,f=6,g=7", "8 at 24"}, {"a=1,b=2,c=3,d=4,e=5,f=6,g", "7 at 25"},
             {"a=1,b=2,c=3,d=4,e=5,f=6,a=7", "8 at 24"}, {"a=1,b=2,c=3,d=4,e=5,f=6,", "7 at 24"},
+            {"xab=1,xac=2,xab=3", "8 at 12"}, {"q=1,abc=2,ab=3,abd=4,abc=5", "8 at 21"}, {"ab=1,b=2,ab=3,b=4", "8 at 9"},
             {"a=1,b=2,c=3,d=4,e=5,f=6,g=", "8 at 24"}, {"a=1,a=(,c", "8 at 4"}, {"a=(,a=1", "7 at 2"}, {"a=b\n", "7 at 3"},
         };
         Probe p = new Probe();
