@@ -316,6 +316,12 @@ public final class QuestionsTest {
         Probe p = filled();
         CHECK.due("15: the same texts",
                 p.asked("sum by (host)({job=\"api\"}) + count by (host)({})", 0, 20, 2), "h1| 101 273; h2| 8 10");
+        CHECK.due("15: the first one of the left is not there",
+                p.asked("sum by (host)({job=\"api\"}) + sum by (host)({host=\"h2\"})", 0, 20, 2), "h2| 14 18");
+        CHECK.due("15: the first one of the right is not there",
+                p.asked("sum by (host)({host=\"h2\"}) + sum by (host)({job=\"api\"})", 0, 20, 2), "h2| 14 18");
+        CHECK.due("15: none goes with another",
+                p.asked("sum by (host)({host=\"h2\"}) + sum by (host)({job=\"web\"})", 0, 20, 2), "");
         CHECK.due("15: nothing in a cell",
                 p.asked("sum by (host)({job=\"api\"}) - sum by (host)({job=\"web\"})", 0, 20, 2), "h1| . 275");
         CHECK.due("15: a row with each one", p.asked("sum by (job)({}) * 2", 0, 20, 2), "| . 2000; api| 214 558; web| . -10");

@@ -99,7 +99,8 @@ public final class SeriesAndPointsTest {
         p.vault.flush();
         p.vault.delete(0, 6, 6);
         p.vault.retain(6);
-        CHECK.due("4: before it", p.counts(), "1 0 1 1 52 1 1 1 1");
+        p.vault.append(0, 8, 8);
+        CHECK.due("4: before it", p.counts(), "1 1 1 1 52 2 2 1 2");
         p.ask("1", 0, 1, 1);
         p.ask("?", 0, 1, 1);
         p.ask("1", 0, 1, 1);
