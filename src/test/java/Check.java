@@ -4,13 +4,28 @@ import java.util.concurrent.Callable;
 final class Check {
     private int right;
     private int wrong;
+    private int sentences;
+    private String about = "";
+
+    /** The test of one sentence of the document: what it finds is told under that sentence. */
+    void sentence(String sentence, Act test) {
+        about = "[" + sentence + "] ";
+        sentences++;
+        try {
+            test.act();
+        } catch (RuntimeException e) {
+            wrong++;
+            System.out.println(about + "the test ended with " + e);
+        }
+        about = "";
+    }
 
     void due(String what, long got, long want) {
         if (got == want) {
             right++;
         } else {
             wrong++;
-            System.out.println(what + " answered " + got + ", due is " + want);
+            System.out.println(about + what + " answered " + got + ", due is " + want);
         }
     }
 
@@ -45,7 +60,8 @@ final class Check {
     }
 
     void finish(String name) {
-        System.out.println(name + ": " + right + " as due, " + wrong + " not");
+        String of = sentences > 0 ? " (tests of " + sentences + " sentences)" : "";
+        System.out.println(name + ": " + right + " as due, " + wrong + " not" + of);
         System.exit(wrong == 0 ? 0 : 1);
     }
 }

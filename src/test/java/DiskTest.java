@@ -256,43 +256,41 @@ public final class DiskTest {
         CHECK.due("13: the next one has moved", r.vault.parcel(1, 0), 1);
     }
 
-    /** A parcel of one block, so full that two of them put together have two. */
-    private static void addBigParcel(Probe p, long from) {
-        long[] numbers = new long[2 * 245];
-        for (int i = 0; i < 245; i++) {
+    /** One parcel of points that have 111 bits each, or more. */
+    private static void addDearParcel(Probe p, int s, long from, int n) {
+        long[] numbers = new long[2 * n];
+        for (int i = 0; i < n; i++) {
             numbers[2 * i] = from + i * 5000L + (i % 2 == 0 ? 0 : 4900);
             numbers[2 * i + 1] = i % 2 == 0 ? 0 : -1L;
         }
-        CHECK.due("13: points", p.bulk(0, numbers), 245);
+        CHECK.due("13: points", p.bulk(s, numbers), n);
         p.vault.flush();
     }
 
     private static void compactLimits() {
         Probe p = new Probe();
-        p.vault.format(16, 2);
+        p.vault.format(16, 8);
         p.series("a=b");
-        for (int i = 0; i < 4; i++) {
-            addBigParcel(p, i * 10000000L);
-        }
-        CHECK.due("13: free", p.vault.count(4), 12 - 1 - 4 * p.vault.parcel(0, 4));
-        CHECK.due("13: blocks", p.vault.parcel(0, 4), 1);
-        p.vault.compact(0);
-        CHECK.due("13: two blocks", p.vault.parcel(0, 4), 2);
-        p.vault.compact(1);
-        CHECK.due("13: counts", p.counts(), "1 0 2 0 7 0 0 0 980");
-        for (int i = 4; i < 8; i++) {
-            addBigParcel(p, i * 10000000L);
-        }
-        CHECK.due("13: free", p.vault.count(4), 3);
-        p.vault.append(0, 90000000L, 0);
-        CHECK.refused("13: four blocks are needed", Probe.UNSUPPORTED, () -> p.vault.compact(0));
+        addDearParcel(p, 0, 0, 150);
+        addDearParcel(p, 0, 10000000L, 150);
+        p.vault.append(0, 20000000L, 0);
+        p.vault.flush();
+        p.vault.append(0, 30000000L, 0);
+        p.vault.flush();
+        CHECK.due("13: four parcels of one block", p.counts(), "1 0 4 0 1 0 0 0 302");
+        p.vault.append(0, 40000000L, 0);
+        int before = p.vault.written();
+        CHECK.refused("13: two blocks are needed", Probe.UNSUPPORTED, () -> p.vault.compact(0));
         CHECK.due("13: asked before it is synced", p.vault.count(7), 0);
-        CHECK.due("13: sync and three blocks and the manifest", p.vault.compact(1), 5);
-        CHECK.due("13: free again", p.vault.count(4), 3);
-        CHECK.due("13: parcel", p.vault.parcel(1, 4), 3);
-        p.vault.delete(0, 0, 89000000L);
+        CHECK.due("13: nothing is written", p.vault.written(), before);
+        CHECK.due("13: sync, a block, the manifest", p.vault.compact(2), 3);
+        CHECK.due("13: free", p.vault.count(4), 2);
+        CHECK.due("13: just enough", p.vault.compact(0), 3);
+        CHECK.due("13: two blocks", p.vault.parcel(0, 4), 2);
+        CHECK.due("13: free again", p.vault.count(4), 2);
+        p.vault.delete(0, 0, 30000000L);
         CHECK.due("13: none is needed for nothing", p.vault.compact(0), 2);
-        CHECK.due("13: free", p.vault.count(4), 8);
+        CHECK.due("13: free", p.vault.count(4), 5);
     }
 
     private static void compactPower() {

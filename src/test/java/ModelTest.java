@@ -1,7 +1,7 @@
 import java.util.Random;
 import java.util.concurrent.Callable;
 
-/** Long runs of calls, each made of a vault and of the model: their answers must be the same. */
+/** Runs of up to 512 calls, each made of a vault and of the model: their answers must be the same. */
 public final class ModelTest {
     private static final String[] NAMES = {"a", "b", "job", "host", "x_1", "by", "sum", "zone"};
     private static final String[] VALUES = {"0", "1", "api", "ap", "apis", "web", "~!", "db"};
@@ -9,10 +9,11 @@ public final class ModelTest {
 
     private final Random random;
     private final int profile;
-    private final SeriesVault vault = new SeriesVault();
+    private final Vault vault = new Vault();
     private final Model model = new Model();
     private final StringBuilder told = new StringBuilder();
     private int wrong;
+    private int lastWindows;
 
     private ModelTest(int seed) {
         random = new Random(seed);
@@ -21,11 +22,11 @@ public final class ModelTest {
 
     public static void main(String[] args) {
         int from = args.length > 0 ? Integer.parseInt(args[0]) : 0;
-        int to = args.length > 1 ? Integer.parseInt(args[1]) : 120;
+        int to = args.length > 1 ? Integer.parseInt(args[1]) : 1500;
         int wrongRuns = 0;
         for (int seed = from; seed < to; seed++) {
             ModelTest run = new ModelTest(seed);
-            if (!run.goes(700)) {
+            if (!run.goes()) {
                 wrongRuns++;
                 System.out.println("run " + seed + ":\n" + run.told);
             }
@@ -34,18 +35,21 @@ public final class ModelTest {
         System.exit(wrongRuns == 0 ? 0 : 1);
     }
 
-    private boolean goes(int calls) {
+    private boolean goes() {
         if (profile == 1 || profile == 2) {
             int blocks = 16 + random.nextInt(6);
             int journal = 2 + random.nextInt(blocks - 9);
             both("format", () -> { vault.format(blocks, journal); return 0; }, () -> { model.format(blocks, journal); return 0; });
         }
-        for (int i = 0; i < calls && wrong == 0; i++) {
+        // A step that has too few calls left is not made: so the rounds are bounded, too.
+        for (int i = 0; i < Vault.CALLS && vault.callsLeft() > 60 && wrong == 0; i++) {
             step();
-            if (wrong == 0 && (random.nextInt(6) == 0 || i == calls - 1)) {
-                compareAll();
+            if (random.nextInt(3) == 0) {
+                look(2);
             }
         }
+        lookAtCounts();
+        look(vault.callsLeft());
         return wrong == 0;
     }
 
@@ -77,7 +81,11 @@ public final class ModelTest {
         }
     }
 
-    private void tape(byte[] bytes) {
+    /** False if that would take too many of the calls that are left. */
+    private boolean tape(byte[] bytes) {
+        if (bytes.length / 20 + 30 > vault.callsLeft()) {
+            return false;
+        }
         if (random.nextInt(40) > 0) {
             vault.end(0);
             model.end(0);
@@ -92,12 +100,13 @@ public final class ModelTest {
         }
         int n = before + bytes.length;
         same("end", () -> { vault.end(n); return 0; }, () -> { model.end(n); return 0; });
+        return true;
     }
 
     private void step() {
         if (!model.on && random.nextInt(4) > 0) {
             both("start()", () -> vault.start(), () -> model.start());
-            compareAll();
+            look(6);
             return;
         }
         int kind = random.nextInt(100);
@@ -210,7 +219,9 @@ public final class ModelTest {
             numbers[2 * i + 1] = someValue();
         }
         byte[] points = Tape.points(numbers);
-        tape(java.util.Arrays.copyOf(points, points.length + random.nextInt(16)));
+        if (!tape(java.util.Arrays.copyOf(points, points.length + random.nextInt(16)))) {
+            return;
+        }
         if (random.nextInt(6) == 0) {
             maybeCut();
         }
@@ -266,8 +277,9 @@ public final class ModelTest {
             text.append(",n=").append(random.nextInt(10000));
         }
         mutate(text, 8);
-        tape(Tape.bytes(text.toString()));
-        both("series() of " + text, () -> vault.series(), () -> model.series());
+        if (tape(Tape.bytes(text.toString()))) {
+            both("series() of " + text, () -> vault.series(), () -> model.series());
+        }
     }
 
     private String pick(String[] words) {
@@ -295,7 +307,9 @@ public final class ModelTest {
         String by = random.nextInt(3) == 0 ? null : names();
         exp(text, by, random.nextInt(4));
         mutate(text, 4);
-        tape(Tape.bytes(text.toString()));
+        if (!tape(Tape.bytes(text.toString()))) {
+            return;
+        }
         long earliest = model.mem.horizon;
         long latest = 1 + earliest;
         for (long last : model.mem.lasts) {
@@ -307,9 +321,12 @@ public final class ModelTest {
         long width = random.nextInt(30) == 0 ? someTime() : 1 + (long) (random.nextDouble() * 2 * part);
         String asked = "ask(" + from + ", " + width + ", " + n + ") of " + text;
         both(asked, () -> vault.ask(from, width, n), () -> model.ask(from, width, n));
-        compareTable();
+        lastWindows = Math.min(n, 64);
         same("fault(0)", () -> vault.fault(0), () -> model.fault(0));
         same("fault(1)", () -> vault.fault(1), () -> model.fault(1));
+        for (int i = 0; i < 8; i++) {
+            lookAtTable();
+        }
     }
 
     private String names() {
@@ -367,46 +384,73 @@ public final class ModelTest {
         }
     }
 
-    private void compareTable() {
-        same("names()", () -> vault.names(), () -> model.names());
+    private void lookAtTable() {
         int rows = model.table == null ? 0 : model.table.rows.size();
-        for (int r = -1; r <= rows; r++) {
-            int row = r;
-            for (int k = -1; k <= model.names(); k++) {
-                int name = k;
-                for (int i = -1; i < 27; i++) {
-                    int place = i;
-                    same("text(" + row + ", " + k + ", " + i + ")", () -> vault.text(row, name, place), () -> model.text(row, name, place));
-                }
-            }
-            for (int w = -1; w <= 64; w++) {
-                int window = w;
-                same("isThere(" + row + ", " + w + ")", () -> vault.isThere(row, window), () -> model.isThere(row, window));
-                same("cell(" + row + ", " + w + ")", () -> vault.cell(row, window), () -> model.cell(row, window));
-            }
+        int row = random.nextInt(12) == 0 ? random.nextInt(rows + 2) - 1 : random.nextInt(Math.max(rows, 1));
+        int window = random.nextInt(12) == 0 ? random.nextInt(66) - 1 : random.nextInt(Math.max(lastWindows, 1));
+        int name = random.nextInt(Math.max(model.names(), 0) + 2) - 1;
+        int place = random.nextInt(8) - 1;
+        switch (random.nextInt(8)) {
+            case 0:
+                same("names()", () -> vault.names(), () -> model.names());
+                break;
+            case 1:
+            case 2:
+                same("text(" + row + ", " + name + ", " + place + ")", () -> vault.text(row, name, place), () -> model.text(row, name, place));
+                break;
+            case 3:
+            case 4:
+                same("isThere(" + row + ", " + window + ")", () -> vault.isThere(row, window), () -> model.isThere(row, window));
+                break;
+            default:
+                same("cell(" + row + ", " + window + ")", () -> vault.cell(row, window), () -> model.cell(row, window));
+                break;
         }
     }
 
-    private void compareAll() {
-        for (int what = -1; what < 10; what++) {
+    private void lookAtCounts() {
+        for (int what = 0; what < 9; what++) {
             int w = what;
             same("count(" + what + ")", () -> vault.count(w), () -> model.count(w));
-            same("fault(" + what + ")", () -> vault.fault(w), () -> model.fault(w));
         }
-        for (int k = -1; k <= model.mem.parcels.size(); k++) {
-            int parcel = k;
-            for (int what = -1; what < 6; what++) {
-                int w = what;
-                same("parcel(" + k + ", " + what + ")", () -> vault.parcel(parcel, w), () -> model.parcel(parcel, w));
-            }
+    }
+
+    private void look(int times) {
+        for (int i = 0; i < times; i++) {
+            lookOnce();
         }
-        for (int i = -1; i <= model.mem.texts.size(); i++) {
-            int s = i;
-            same("last(" + s + ")", () -> vault.last(s), () -> model.last(s));
-            int k = random.nextInt(60) - 1;
-            same("letter(" + s + ", " + k + ")", () -> vault.letter(s, k), () -> model.letter(s, k));
+    }
+
+    private void lookOnce() {
+        int what = random.nextInt(random.nextInt(12) == 0 ? 12 : 9) - (random.nextInt(20) == 0 ? 1 : 0);
+        int k = random.nextInt(model.mem.parcels.size() + 1) - (random.nextInt(12) == 0 ? 1 : 0);
+        int s = someSeries();
+        int place = random.nextInt(60) - 1;
+        switch (random.nextInt(10)) {
+            case 0:
+            case 1:
+            case 2:
+                same("count(" + what + ")", () -> vault.count(what), () -> model.count(what));
+                break;
+            case 3:
+            case 4:
+                same("parcel(" + k + ", " + what % 5 + ")", () -> vault.parcel(k, what % 5), () -> model.parcel(k, what % 5));
+                break;
+            case 5:
+                same("last(" + s + ")", () -> vault.last(s), () -> model.last(s));
+                break;
+            case 6:
+                same("letter(" + s + ", " + place + ")", () -> vault.letter(s, place), () -> model.letter(s, place));
+                break;
+            case 7:
+                same("written()", () -> vault.written(), () -> model.written());
+                break;
+            case 8:
+                same("fault(" + what % 3 + ")", () -> vault.fault(what % 3), () -> model.fault(what % 3));
+                break;
+            default:
+                lookAtTable();
+                break;
         }
-        same("written()", () -> vault.written(), () -> model.written());
-        compareTable();
     }
 }

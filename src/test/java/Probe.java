@@ -5,7 +5,7 @@ final class Probe {
     static final Class<IllegalArgumentException> ARGUMENT = IllegalArgumentException.class;
     static final Class<UnsupportedOperationException> UNSUPPORTED = UnsupportedOperationException.class;
 
-    final SeriesVault vault = new SeriesVault();
+    final Vault vault = new Vault();
 
     int series(String text) {
         vault.end(0);
@@ -46,8 +46,10 @@ final class Probe {
 
     String textOf(int s) {
         StringBuilder text = new StringBuilder();
-        for (int k = 0; vault.letter(s, k) != SeriesVault.NONE; k++) {
-            text.append((char) vault.letter(s, k));
+        int letter = vault.letter(s, 0);
+        while (letter != SeriesVault.NONE) {
+            text.append((char) letter);
+            letter = vault.letter(s, text.length());
         }
         return text.toString();
     }
@@ -55,19 +57,27 @@ final class Probe {
     /** All of the table: a row is its texts, then its cells, a . for nothing. */
     String table(int rows, int windows) {
         StringBuilder all = new StringBuilder();
+        int names = vault.names();
         for (int row = 0; row < rows; row++) {
             all.append(row > 0 ? "; " : "");
-            for (int k = 0; k < vault.names(); k++) {
-                for (int i = 0; vault.text(row, k, i) != SeriesVault.NONE; i++) {
-                    all.append((char) vault.text(row, k, i));
-                }
-                all.append('|');
+            for (int k = 0; k < names; k++) {
+                all.append(rowText(row, k)).append('|');
             }
             for (int w = 0; w < windows; w++) {
                 all.append(' ').append(vault.isThere(row, w) ? String.valueOf(vault.cell(row, w)) : ".");
             }
         }
         return all.toString();
+    }
+
+    String rowText(int row, int k) {
+        StringBuilder text = new StringBuilder();
+        int letter = vault.text(row, k, 0);
+        while (letter != SeriesVault.NONE) {
+            text.append((char) letter);
+            letter = vault.text(row, k, text.length());
+        }
+        return text.toString();
     }
 
     String asked(String text, long from, long width, int n) {
@@ -90,5 +100,41 @@ final class Probe {
             all.append(what > 0 ? " " : "").append(vault.parcel(k, what));
         }
         return all.toString();
+    }
+
+    /** All that can be read, but for the bytes of the tape: two such texts differ if something changed. */
+    String everything() {
+        StringBuilder all = new StringBuilder(counts());
+        all.append(" written ").append(vault.written()).append(" fault ").append(fault()).append(" tape ").append(tapeLength());
+        for (int k = 0; k < vault.count(2); k++) {
+            all.append(" parcel ").append(parcel(k));
+        }
+        for (int s = 0; s < vault.count(0); s++) {
+            all.append(' ').append(textOf(s)).append(" to ").append(vault.last(s));
+        }
+        return all.append(" table ").append(wholeTable()).toString();
+    }
+
+    /** The table, with as many rows and windows as it has. */
+    private String wholeTable() {
+        int names = vault.names();
+        int rows = 0;
+        while (names != SeriesVault.NONE && isCell(rows, 0)) {
+            rows++;
+        }
+        int windows = 0;
+        while (rows > 0 && isCell(0, windows)) {
+            windows++;
+        }
+        return names + " " + rows + " " + windows + " " + table(rows, windows);
+    }
+
+    private boolean isCell(int row, int window) {
+        try {
+            vault.isThere(row, window);
+            return true;
+        } catch (IndexOutOfBoundsException e) {
+            return false;
+        }
     }
 }

@@ -106,8 +106,8 @@ public final class QuestionsTest {
             {"sumby(a)({})", "2 at 0"}, {"sum({})sum({})", "2 at 7"}, {"-", "2 at 1"}, {"--1", "0 at 0"}, {"1--1", "0 at 0"},
             {"1-+1", "2 at 2"}, {"1%-1", "0 at 0"}, {"sum(-{})", "2 at 4"}, {"sum(({}))", "2 at 4"}, {"{}", "2 at 0"}, {"1,2", "2 at 1"},
         };
-        Probe p = new Probe();
         for (String[] f : faults) {
+            Probe p = new Probe();
             int rows = p.ask(f[0], 0, 1, 1);
             CHECK.due("15: fault of " + f[0], p.fault(), f[1]);
             CHECK.due("15: a fault or none " + f[0], rows == SeriesVault.NONE, !f[1].equals("0 at 0"));
@@ -187,7 +187,7 @@ public final class QuestionsTest {
         for (int i = 0; i < 3000; i++) {
             many.append(i % 2 == 0 ? "+1" : "*1");
         }
-        CHECK.due("15: a long one", p.asked(many.toString(), 0, 1, 1), " 1501");
+        CHECK.due("15: a long one", new Probe().asked(many.toString(), 0, 1, 1), " 1501");
     }
 
     private static void windows() {
@@ -367,14 +367,14 @@ public final class QuestionsTest {
     private static void greatTable() {
         Probe p = new Probe();
         p.vault.format(64, 16);
-        for (int s = 0; s < 256; s++) {
+        for (int s = 0; s < 48; s++) {
             p.series("n=" + (1000 + s));
             p.vault.append(s, s % 64, s);
             p.vault.append(s, 64, 7);
         }
-        CHECK.due("15: 256 rows", p.ask("first by (n)({}) + latest by (n)({}) - sum by (n)({})", 0, 1, 64), 256);
+        CHECK.due("15: 48 rows", p.ask("first by (n)({}) + latest by (n)({}) - sum by (n)({})", 0, 1, 64), 48);
         CHECK.due("16: names()", p.vault.names(), 1);
-        for (int s = 0; s < 256; s++) {
+        for (int s = 0; s < 48; s++) {
             CHECK.due("17: its text", p.vault.text(s, 0, 3), '0' + s % 10);
             CHECK.due("18: its window", p.vault.isThere(s, s % 64), true);
             CHECK.due("18: another window", p.vault.isThere(s, (s + 1) % 64), false);

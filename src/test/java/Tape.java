@@ -3,16 +3,19 @@ final class Tape {
     private Tape() {
     }
 
-    static void put(SeriesVault vault, byte[] bytes) {
-        int before = vault.feed(0, 0, 0, 0, 0) - 20;
-        vault.end(before);
+    /** Behind what is on the tape, with as few calls as may be. */
+    static void put(Vault vault, byte[] bytes) {
+        int length = 0;
         for (int i = 0; i < bytes.length; i += 20) {
-            vault.feed(word(bytes, i), word(bytes, i + 4), word(bytes, i + 8), word(bytes, i + 12), word(bytes, i + 16));
+            length = vault.feed(word(bytes, i), word(bytes, i + 4), word(bytes, i + 8), word(bytes, i + 12), word(bytes, i + 16));
         }
-        vault.end(before + bytes.length);
+        int tooMuch = (20 - bytes.length % 20) % 20;
+        if (tooMuch > 0) {
+            vault.end(length - tooMuch);
+        }
     }
 
-    static void put(SeriesVault vault, String text) {
+    static void put(Vault vault, String text) {
         put(vault, bytes(text));
     }
 
