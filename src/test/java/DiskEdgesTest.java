@@ -250,6 +250,19 @@ public final class DiskEdgesTest {
             CHECK.due("units", q.vault.count(5), 42 * 3);
             CHECK.due("126 units", q.vault.flush(), 2);
         });
+        CHECK.sentence("Terms 2: .. and filled likewise (what a block has left over stays so)", () -> {
+            Probe p = new Probe();
+            for (int i = 0; i < 62; i++) {
+                p.series("n=" + (100000000000000000L + i));
+            }
+            p.series("n=" + W24 + ",m=56789012345");
+            for (int i = 0; i < 61; i++) {
+                p.series("m=" + (100000000000000000L + i));
+            }
+            CHECK.due("124 units, and 3 and 122", p.vault.flush(), 3);
+            p.series("q=q");
+            CHECK.due("2 units more", p.vault.flush(), 4);
+        });
         CHECK.sentence("Terms 2: all series are written in a catalog, one record for each (also when no new one came)", () -> {
             Probe p = packed(1);
             p.vault.append(0, 2, 2);
@@ -524,6 +537,15 @@ public final class DiskEdgesTest {
             p.bulk(1, 5, 5, 6, 6, 7, 7, 8, 8, 9, 9);
             p.series(W24 + "=" + W24);
             CHECK.due("all differ", p.counts(), "3 5 4 2 49 10 8 2 6");
+        });
+        CHECK.sentence("20: 8 points seen, in all (of any time)", () -> {
+            Probe p = packed(0, MAX_TIME);
+            p.vault.append(1, 0, 0);
+            p.vault.append(1, MAX_TIME, 0);
+            CHECK.due("the first and the latest time", p.vault.count(8), 4);
+            CHECK.due("of a parcel", p.vault.parcel(1, 1), 1);
+            CHECK.due("retain(latest)", p.vault.retain(MAX_TIME), 2);
+            CHECK.due("seen", p.vault.count(8), 2);
         });
         CHECK.sentence("20: 5 units of records in the journal (what blocks have left over is none)", () -> {
             Probe p = packed();

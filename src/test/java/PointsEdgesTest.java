@@ -23,6 +23,7 @@ public final class PointsEdgesTest {
         journal();
         journalRefuses();
         journalKept();
+        journalLeftOver();
         head();
         CHECK.finish("PointsEdgesTest");
     }
@@ -166,6 +167,13 @@ public final class PointsEdgesTest {
                 CHECK.due("records", p.vault.count(6), 2 + bytes / 16);
                 CHECK.due("the tape is empty", p.tapeLength(), 0);
             }
+        });
+        CHECK.sentence("9: (what is left over does not count) nor what stood behind the end of the tape", () -> {
+            Probe p = two();
+            Tape.put(p.vault, Tape.points(1, 1, 2, 2, 3, 3));
+            p.vault.end(31);
+            CHECK.due("bulk", p.vault.bulk(0), 1);
+            CHECK.due("last", p.vault.last(0), 1);
         });
         CHECK.sentence("9: an empty tape has no points", () -> {
             Probe p = two();
@@ -423,6 +431,41 @@ public final class PointsEdgesTest {
             p.vault.compact(1);
             CHECK.due("the second had 9 alone", p.vault.count(3), 1);
             CHECK.due("its points are not seen", p.asked("count by (a)({})", 0, 100, 1), "c| 1");
+        });
+        CHECK.sentence("Terms 2: while there are packed points that it let go (the first, and the last, of a parcel)", () -> {
+            Probe p = packed(5);
+            p.bulkOf(1, 0, 2);
+            p.vault.flush();
+            p.bulkOf(1, 2, 2);
+            p.vault.flush();
+            p.vault.delete(0, 0, 0);
+            p.vault.compact(1);
+            CHECK.due("the first one", p.vault.count(3), 1);
+            p.vault.delete(0, 4, 4);
+            p.vault.delete(1, 3, 3);
+            p.vault.retain(1);
+            CHECK.due("the last ones", p.vault.count(3), 3);
+            CHECK.due("seen", p.asked("count by (a)({})", 0, 1, 6), "b| . 1 1 1 . .; c| . 1 1 . . .");
+        });
+        CHECK.sentence("Terms 2: ends with the manifest that leaves it none (others stay as they are)", () -> {
+            Probe p = packed(4);
+            p.bulkOf(1, 0, 4);
+            p.vault.flush();
+            p.bulkOf(0, 4, 4);
+            p.bulkOf(1, 4, 4);
+            p.vault.flush();
+            p.vault.delete(0, 1, 2);
+            p.vault.delete(1, 5, 6);
+            p.vault.delete(1, 1, 1);
+            p.vault.delete(0, 5, 5);
+            p.vault.compact(0);
+            CHECK.due("two have ended", p.vault.count(3), 2);
+            String seen = "b| 1 . . 1 1 . 1 1; c| 1 . 1 1 1 . . 1";
+            CHECK.due("seen", p.asked("count by (a)({})", 0, 1, 8), seen);
+            p.vault.off();
+            p.vault.start();
+            CHECK.due("scars", p.vault.count(3), 2);
+            CHECK.due("when the power came", p.asked("count by (a)({})", 0, 1, 8), seen);
         });
         CHECK.sentence("Terms 2: at most 64 (one that ended makes room)", () -> {
             Probe p = scarred();
@@ -682,6 +725,32 @@ public final class PointsEdgesTest {
             p.vault.off();
             CHECK.due("start()", p.vault.start(), 241);
             CHECK.due("10 have room", p.bulkOf(0, 600, 20), 10);
+        });
+    }
+
+    private static void journalLeftOver() {
+        CHECK.sentence("Terms 2: what a block has left over takes no record later (of three blocks)", () -> {
+            Probe p = new Probe();
+            p.vault.format(16, 3);
+            p.series("a=b");
+            p.bulkOf(0, 0, 123);
+            p.series("c=d");
+            CHECK.due("1 unit is left over", p.vault.written(), 1);
+            CHECK.due("124 and 126 have room", p.bulkOf(0, 200, 251), 250);
+            CHECK.due("units", p.vault.count(5), 125 + 252);
+        });
+        CHECK.sentence("Terms 2: what a block has left over takes no record later (when the power came, too)", () -> {
+            Probe p = new Probe();
+            p.vault.format(16, 2);
+            p.series("a=b");
+            p.bulkOf(0, 0, 123);
+            p.series("c=d");
+            p.vault.sync();
+            p.vault.off();
+            CHECK.due("start()", p.vault.start(), 125);
+            CHECK.due("124 have room in the second block", p.bulkOf(0, 200, 130), 124);
+            CHECK.due("units", p.vault.count(5), 125 + 126);
+            CHECK.due("written", p.vault.written(), 2);
         });
     }
 

@@ -39,6 +39,15 @@ public final class QuestionEdgesTest {
         CHECK.due(text, p.asked(text, 0, 1, 1), " " + number);
     }
 
+    /** The question is that of the first bytes of the text; the others stood on the tape before end(). */
+    private static void cutFault(String text, int length, String want) {
+        Probe p = new Probe();
+        Tape.put(p.vault, text);
+        p.vault.end(length);
+        p.vault.ask(0, 1, 1);
+        CHECK.due("fault of " + length + " of " + text, p.fault(), want);
+    }
+
     private static void arguments() {
         CHECK.sentence("15: from is no time", () -> {
             for (long from : new long[] {-1, MAX_TIME + 1, Long.MIN_VALUE, Long.MAX_VALUE}) {
@@ -100,6 +109,28 @@ public final class QuestionEdgesTest {
             CHECK.due("behind a fault", p.tapeLength(), 0);
             p.ask("sum by (a)({})+sum by (b)({})", 0, 1, 1);
             CHECK.due("behind fault 5", p.tapeLength(), 0);
+        });
+        CHECK.sentence("3: the tape keeps its first n bytes (what stood behind them is gone, for ask())", () -> {
+            cutFault("1 !=", 3, "1 at 2");
+            cutFault("1 !^", 3, "1 at 2");
+            cutFault("1 ^=", 3, "1 at 2");
+            cutFault("1+    ", 2, "2 at 2");
+            cutFault("1+    ", 4, "2 at 4");
+            cutFault("1+2", 2, "2 at 2");
+            cutFault("sums", 3, "2 at 3");
+            cutFault("sum({})", 6, "2 at 6");
+            cutFault("1 \"a\"", 4, "1 at 2");
+            cutFault("1 \"\"", 3, "1 at 2");
+            cutFault("1 \"ab\"", 4, "1 at 2");
+            cutFault("1 \"abc\"", 4, "1 at 2");
+            cutFault("1#", 1, "0 at 0");
+            cutFault(MAX + "0", 19, "0 at 0");
+            cutFault("1)", 1, "0 at 0");
+            Probe p = new Probe();
+            Tape.put(p.vault, "123");
+            p.vault.end(2);
+            p.vault.ask(0, 1, 1);
+            CHECK.due("12 of 123", p.vault.cell(0, 0), 12);
         });
         CHECK.sentence("15: its table takes the place of the one before", () -> {
             Probe p = new Probe();
@@ -204,7 +235,7 @@ public final class QuestionEdgesTest {
             fault("09223372036854775808", "1 at 0");
         });
         CHECK.sentence("Terms 4: NAME: a row of letters, digits and _ that begins with no digit", () -> {
-            fine("sum({a=\"\",Z=\"\",_=\"\",a1=\"\",_1_a=\"\",zZ9=\"\"})");
+            fine("sum({a=\"\",Z=\"\",_=\"\",a1=\"\",_1_a=\"\",zZ90=\"\",A0_z=\"\"})");
             fault("sum({1a=\"\"})", "2 at 5");
             fault("sum({a.b=\"\"})", "1 at 6");
             fault("sum({a-b=\"\"})", "2 at 6");
@@ -297,6 +328,12 @@ public final class QuestionEdgesTest {
             fault("sum({a=\"b\",})", "2 at 11");
             fault("sum({a=\"b\"c=\"d\"})", "2 at 10");
             fault("sum({a+\"b\"})", "2 at 6");
+            fault("sum({a\"b\"})", "2 at 6");
+            fault("sum({a\"b\"\"c\"})", "2 at 6");
+            fault("sum({a=!=})", "2 at 7");
+            fault("sum({a=^=})", "2 at 7");
+            fault("sum({a=!^})", "2 at 7");
+            fault("sum({a!=!=\"b\"})", "2 at 8");
             fault("sum({\"a\"=\"b\"})", "2 at 5");
             fault("sum by", "2 at 6");
             fault("sum by a({})", "2 at 7");
@@ -318,6 +355,8 @@ public final class QuestionEdgesTest {
                 fault(func.substring(1) + "({})", "2 at 0");
                 fault(func.substring(0, func.length() - 1) + "({})", "2 at 0");
                 fault(func + "s({})", "2 at 0");
+                fault("x" + func.substring(1) + "({})", "2 at 0");
+                fault(func.substring(0, func.length() - 1) + "x({})", "2 at 0");
             }
             fault("last({})", "2 at 0");
             fault("avg({})", "2 at 0");
@@ -443,6 +482,15 @@ public final class QuestionEdgesTest {
             fault("1 + 9223372036854775808 )", "1 at 4");
             fault(") 9223372036854775808", "2 at 0");
             fault("1 1 \"", "2 at 2");
+        });
+        CHECK.sentence("6: of the latest series() or ask() (one fault behind another)", () -> {
+            Probe p = new Probe();
+            String[][] faults = {{"1 #", "1 at 2"}, {"1 + )", "2 at 4"}, {"(((((((((", "3 at 8"}, {"sum by (a,a)({})", "4 at 10"},
+                {"sum by (a)({})*sum by (b)({})", "5 at 14"}, {"", "2 at 0"}, {"#", "1 at 0"}, {"1", "0 at 0"}, {"1 1", "2 at 2"}};
+            for (String[] f : faults) {
+                p.ask(f[0], 0, 1, 1);
+                CHECK.due("fault of " + f[0], p.fault(), f[1]);
+            }
         });
         CHECK.sentence("Terms 4: (at one place: 1, then 2)", () -> {
             fault("1 9223372036854775808", "1 at 2");

@@ -31,7 +31,26 @@ public final class RefusedTest {
         CHECK.sentence("a call that throws changes nothing (what is kept on the disk)", RefusedTest::changesNothingOnTheDisk);
         CHECK.sentence("when the power goes off in it, what was written before stays, and it throws IllegalStateException", RefusedTest::powerGoes);
         CHECK.sentence("the power goes off in a call that writes a block of the journal", RefusedTest::powerGoesWithARecord);
+        CHECK.sentence("all memory is the class's own (two objects share none of it)", RefusedTest::twoObjects);
         CHECK.finish("RefusedTest");
+    }
+
+    private static void twoObjects() {
+        Probe p = rich();
+        String before = p.everything();
+        Probe q = new Probe();
+        CHECK.due("a new one beside it", q.everything(), "0 0 0 0 54 0 0 0 0 written 0 fault 0 at 0 tape 0 table -1 0 0 ");
+        q.vault.format(32, 4);
+        q.series("z=z,a=b");
+        q.bulk(0, 1, 100, 2, 200);
+        q.vault.flush();
+        q.vault.delete(0, 1, 1);
+        q.vault.retain(2);
+        q.ask("latest by (z)({})", 0, 9, 3);
+        q.vault.off();
+        CHECK.due("the first one", p.everything(), before);
+        q.vault.start();
+        CHECK.due("the second one", q.counts() + " " + q.textOf(0) + " " + q.table(1, 3), "1 0 1 1 24 1 1 1 1 a=b,z=z z| 200 . .");
     }
 
     private static void put(List<Refusal> all, String name, Class<? extends RuntimeException> due, Use use) {

@@ -88,6 +88,8 @@ public final class SeriesEdgesTest {
             fault("a=1,a=1", "8 at 4");
             fine("a=1,b=1", "a=1,b=1");
             fine("a=1,A=1", "A=1,a=1");
+            fine("a=1,ab=2", "a=1,ab=2");
+            fine("ab=1,b=2,a=3", "a=3,ab=1,b=2");
             fault(W23 + "x=1," + W23 + "x=2", "8 at 27");
             fine(W23 + "x=1," + W23 + "y=2", W23 + "x=1," + W23 + "y=2");
         });
@@ -236,6 +238,18 @@ public final class SeriesEdgesTest {
             p.vault.end(0);
             CHECK.due("none of them", p.tapeLength(), 0);
             p.vault.end(0);
+        });
+        CHECK.sentence("3: the tape keeps its first n bytes (what stood behind them is gone, for series())", () -> {
+            String[][] cuts = {{"a=b,c=d", "3", "0 at 0"}, {"a=b,c=d", "4", "7 at 4"}, {"a=b,c=d", "5", "7 at 5"}, {"a=b,c=d", "6", "7 at 6"},
+                {"a=b", "2", "7 at 2"}, {"a=b", "1", "7 at 1"}, {"a=b", "0", "7 at 0"}, {"a=bc", "3", "0 at 0"}};
+            for (String[] c : cuts) {
+                Probe p = new Probe();
+                Tape.put(p.vault, c[0]);
+                p.vault.end(Integer.parseInt(c[1]));
+                CHECK.due("series() of " + c[1] + " of " + c[0], p.vault.series(), c[2].equals("0 at 0") ? 0 : -1);
+                CHECK.due("its fault", p.fault(), c[2]);
+                CHECK.due("its text", c[2].equals("0 at 0") ? p.textOf(0) : "a=b", "a=b");
+            }
         });
         CHECK.sentence("3: n is below 0", () -> {
             Probe p = new Probe();

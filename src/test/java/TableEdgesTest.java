@@ -8,6 +8,7 @@ public final class TableEdgesTest {
 
     public static void main(String[] args) {
         windows();
+        fullWindows();
         matches();
         rows();
         functions();
@@ -63,6 +64,24 @@ public final class TableEdgesTest {
             CHECK.due("rows", p.ask("sum({})", 1, 1, 64), 1);
             for (int w = 0; w < 64; w++) {
                 CHECK.due("window " + w, p.vault.cell(0, w), w + 1);
+            }
+        });
+    }
+
+    private static void fullWindows() {
+        CHECK.sentence("Terms 4: 64 windows (of one row with names, in each operator)", () -> {
+            long[] numbers = new long[2 * 64];
+            for (int i = 0; i < 64; i++) {
+                numbers[2 * i] = i;
+                numbers[2 * i + 1] = i + 1;
+            }
+            String[][] answers = {{"-sum by (a)({})", "-1 -64"}, {"sum by (a)({})+1", "2 65"}, {"1-sum by (a)({})", "0 -63"},
+                {"sum by (a)({})*sum by (a)({})", "1 4096"}, {"128/sum by (a)({})", "128 2"}, {"sum by (a)({})%5", "1 4"}};
+            for (String[] a : answers) {
+                Probe p = with(numbers);
+                CHECK.due(a[0], p.ask(a[0], 0, 1, 64), 1);
+                CHECK.due(a[0], p.vault.cell(0, 0) + " " + p.vault.cell(0, 63), a[1]);
+                CHECK.due("the last one is there", p.vault.isThere(0, 63), true);
             }
         });
     }
@@ -208,6 +227,19 @@ public final class TableEdgesTest {
             p.vault.delete(0, 3, 3);
             CHECK.due("of those that are seen", p.asked("first({})", 0, 10, 1), " 31");
         });
+        CHECK.sentence("Terms 4: first, latest: of the series of the row, in each window", () -> {
+            Probe p = new Probe();
+            p.series("a=x,n=1");
+            p.series("a=y,n=1");
+            p.series("a=x,n=2");
+            p.bulk(0, 5, 50, 14, 140);
+            p.bulk(1, 9, 91, 11, 111);
+            p.bulk(2, 7, 72, 12, 122);
+            CHECK.due("first", p.asked("first by (a)({})", 0, 10, 2), "x| 50 122; y| 91 111");
+            CHECK.due("latest", p.asked("latest by (a)({})", 0, 10, 2), "x| 72 140; y| 91 111");
+            CHECK.due("first by n", p.asked("first by (n)({})", 0, 10, 2), "1| 50 111; 2| 72 122");
+            CHECK.due("latest by n", p.asked("latest by (n)({})", 0, 10, 2), "1| 91 140; 2| 72 122");
+        });
     }
 
     private static void growth() {
@@ -261,6 +293,10 @@ public final class TableEdgesTest {
             CHECK.due("some of both", p.asked("sum by (a)({a!=\"0\"})+sum by (a)({a!=\"2\"})", 0, 9, 1), "1| 12");
             CHECK.due("none", p.asked("sum by (a)({a=\"0\"})+sum by (a)({a=\"2\"})", 0, 9, 1), "");
             CHECK.due("names()", p.vault.names(), 1);
+            Probe q = with(row(1, 5), row(1, 6), row(1, 7));
+            CHECK.due("none", q.asked("sum by (a)({a=\"2\"})+sum by (a)({a=\"0\"})", 0, 9, 1), "");
+            Probe r = with(row(1, 5), row(1, 6), row(1, 7));
+            CHECK.due("all are behind", r.asked("sum by (a)({a!=\"0\"})+sum by (a)({a=\"0\"})", 0, 9, 1), "");
         });
         CHECK.sentence("Terms 4: one of them has no names: its row goes with each one of the other", () -> {
             Probe p = with(row(1, 5), row(1, 6));
@@ -271,8 +307,11 @@ public final class TableEdgesTest {
         });
         CHECK.sentence("Terms 4: (if it has none, there is none)", () -> {
             Probe p = with(row(1, 5), row(1, 6));
+            CHECK.due("it has one", p.asked("sum by (a)({})+5", 0, 9, 1), "0| 10; 1| 11");
             CHECK.due("right", p.asked("sum by (a)({})+sum({a=\"q\"})", 0, 9, 1), "");
             CHECK.due("names()", p.vault.names(), 1);
+            CHECK.due("it has one", p.asked("5+sum by (a)({})", 0, 9, 1), "0| 10; 1| 11");
+            CHECK.due("it has one", p.asked("5+sum by (a)({})", 0, 9, 1), "0| 10; 1| 11");
             CHECK.due("left", p.asked("sum({a=\"q\"})+sum by (a)({})", 0, 9, 1), "");
             CHECK.due("names()", p.vault.names(), 1);
             CHECK.due("both without names", p.asked("sum({a=\"q\"})+1", 0, 9, 1), "");
