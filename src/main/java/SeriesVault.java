@@ -1573,22 +1573,21 @@ public final class SeriesVault {
                 return;
             }
             tokenEnd = place + 1;
-            tokenKind = kindAt(tape[place]);
+            int letter = tape[place];
+            if (isDigit(letter)) {
+                tokenKind = readNumber();
+            } else if (isOfName(letter)) {
+                tokenKind = readName();
+            } else {
+                tokenKind = letter == '"' ? readText() : signOf(letter);
+            }
             if (tokenKind == BAD) {
                 refuse(1, place);
             }
         }
 
-        private int kindAt(int letter) {
-            if (isDigit(letter)) {
-                return readNumber();
-            }
-            if (isOfName(letter)) {
-                return readName();
-            }
+        private int signOf(int letter) {
             switch (letter) {
-                case '"':
-                    return readText();
                 case '!':
                     return nextIs('=') ? longer(NOT_EQUAL) : nextIs('^') ? longer(NOT_BEGINS) : BAD;
                 case '^':
